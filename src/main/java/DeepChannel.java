@@ -134,7 +134,9 @@ public final class DeepChannel {
         if (limit < 0 || limit > LIMIT_MOST) {
             throw new IllegalArgumentException("a limit is 0 .. 8");
         }
-        receiver.takeIn(row, coder.bitsPut(), limit);
+        receiver.decodeRow(row, coder.bitsPut());
+        receiver.findBlocks(limit);
+        receiver.readBlocks();
         return receiver.blocksTaken();
     }
 
@@ -170,7 +172,15 @@ public final class DeepChannel {
         return channel >= 0 && channel < CHANNELS;
     }
 
-    /** The check of the first so many bytes from a place on. */
+    /** Windows have their first bit lowest, marks and bytes are sent from the highest one on. */
+    private static int mirrored(long bits, int count) {
+        int mirror = 0;
+        for (int b = 0; b < count; b++) {
+            mirror = mirror << 1 | (int) (bits >>> b) & 1;
+        }
+        return mirror;
+    }
+
     private static int checkOf(int[] bytes, int from, int count) {
         int check = 65535;
         for (int i = from; i < from + count && i < bytes.length; i++) {
@@ -190,9 +200,10 @@ public final class DeepChannel {
         private int pattern = 0;
 
         static boolean exists(int depth, int fill, int e, int pattern) {
-            boolean depthFits = depth >= 1 && depth <= 5 || depth == WORDS_MOST;
+            boolean depthFits = (depth >= 1 && depth <= 5) || depth == WORDS_MOST;
             boolean fillFits = fill >= 0 && fill <= 250;
-            if (!depthFits || !fillFits || e != 8 && e != 16 || pattern < 0 || pattern > 4) {
+            boolean eFits = e == 8 || e == 16;
+            if (!depthFits || !fillFits || !eFits || pattern < 0 || pattern > 4) {
                 return false;
             }
             int wordBytes = 255 - fill;
@@ -261,7 +272,8 @@ public final class DeepChannel {
         }
 
         int powerOfG(int exponent) {
-            return powers[Math.floorMod(exponent, ORDER)];
+            int least = exponent % ORDER;
+            return powers[least < 0 ? least + ORDER : least];
         }
 
         int product(int a, int b) {
@@ -306,7 +318,7 @@ public final class DeepChannel {
         }
 
         /** The product of x - G^j over all j at which a codeword is 0, lowest power first. */
-        private void prepare() {
+        void prepare() {
             int checks = 2 * shape.e;
             Arrays.fill(generator, 0);
             generator[0] = 1;
@@ -343,7 +355,7 @@ public final class DeepChannel {
             }
         }
 
-        /** Puts word j of the block from a place on right; answers how many bytes were wrong, or NONE. */
+        /** Answers how many bytes of word j, of the block from a place on, were wrong, or NONE. */
         int putRight(int[] bytes, int from, int j) {
             for (int i = 0; i < shape.wordBytes; i++) {
                 coefficients[i] = field.element(bytes[from + i * shape.depth + j]);
@@ -351,10 +363,15 @@ public final class DeepChannel {
             if (isCodeword()) {
                 return 0;
             }
-            int wrong = locator.find(syndromes, shape.e, shape.wordBytes);
+            int wrong = locator.findRecurrence(syndromes, 2 * shape.e);
+            if (wrong > shape.e || !locator.findPlaces(wrong, shape.wordBytes)) {
+                return NONE;
+            }
+            locator.findEvaluator(syndromes, wrong);
             for (int i = 0; i < wrong; i++) {
-                int place = locator.place(i);
-                int right = coefficients[place] ^ locator.difference(i);
+                int place = locator.placeAt(i);
+                int power = shape.wordBytes - 1 - place;
+                int right = coefficients[place] ^ locator.differenceAt(power, shape.e, wrong);
                 bytes[from + place * shape.depth + j] = field.otherForm(right);
             }
             return wrong;
@@ -385,36 +402,19 @@ public final class DeepChannel {
         private final int[] poly = new int[CHECKS_MOST + 1];
         private final int[] earlier = new int[CHECKS_MOST + 1];
         private final int[] spare = new int[CHECKS_MOST + 1];
-        private final int[] evaluator = new int[CHECKS_MOST];
+        private final int[] evaluator = new int[CHECKS_MOST + 1];
         private final int[] places = new int[CHECKS_MOST];
-        private final int[] differences = new int[CHECKS_MOST];
 
         Locator(Field field) {
             this.field = field;
         }
 
-        int place(int i) {
+        int placeAt(int i) {
             return places[i];
         }
 
-        int difference(int i) {
-            return differences[i];
-        }
-
-        /** How many places are wrong; NONE if no codeword is near enough. */
-        int find(int[] syndromes, int e, int wordBytes) {
-            int count = findRecurrence(syndromes, 2 * e);
-            if (count > e || !findPlaces(count, wordBytes)) {
-                return NONE;
-            }
-            findEvaluator(syndromes, count);
-            for (int i = 0; i < count; i++) {
-                differences[i] = differenceAt(wordBytes - 1 - places[i], e, count);
-            }
-            return count;
-        }
-
-        private int findRecurrence(int[] syndromes, int checks) {
+        /** How many places are wrong, if a codeword is near enough. */
+        int findRecurrence(int[] syndromes, int checks) {
             Arrays.fill(poly, 0);
             Arrays.fill(earlier, 0);
             poly[0] = 1;
@@ -454,8 +454,8 @@ public final class DeepChannel {
             }
         }
 
-        /** As many places as the recurrence is long must lie in the word itself: the fill is not sent. */
-        private boolean findPlaces(int count, int wordBytes) {
+        /** All places must lie in the word itself: the fill is not sent, so can't be spoiled. */
+        boolean findPlaces(int count, int wordBytes) {
             int found = 0;
             for (int i = 0; i < wordBytes; i++) {
                 if (valueAt(poly, count, -(wordBytes - 1 - i)) == 0) {
@@ -478,13 +478,13 @@ public final class DeepChannel {
             return value;
         }
 
-        private void findEvaluator(int[] syndromes, int count) {
+        void findEvaluator(int[] syndromes, int count) {
             for (int n = 0; n < count; n++) {
                 evaluator[n] = missAt(syndromes, n, count);
             }
         }
 
-        private int differenceAt(int power, int e, int count) {
+        int differenceAt(int power, int e, int count) {
             int slope = 0;
             for (int i = 1; i <= count; i += 2) {
                 slope ^= field.product(poly[i], field.powerOfG(-power * (i - 1)));
@@ -516,7 +516,7 @@ public final class DeepChannel {
         }
     }
 
-    /** A row of up to 4096 bits. */
+    /** A row of bits; what is behind its end is kept 0, so that windows need not look for it. */
     private static final class BitRow {
         private final long[] cells = new long[LINE_BITS / 64];
         private int length = 0;
@@ -526,42 +526,39 @@ public final class DeepChannel {
         }
 
         void empty() {
+            Arrays.fill(cells, 0);
             length = 0;
         }
 
         void append(int bit) {
-            if (length >= LINE_BITS) {
-                return;
+            if (length < LINE_BITS) {
+                cells[length >> 6] |= (long) bit << (length & 63);
+                length++;
             }
-            int cell = length >> 6;
-            long place = 1L << length;
-            cells[cell] = bit == 0 ? cells[cell] & ~place : cells[cell] | place;
-            length++;
         }
 
-        /** The place is a long so that one behind the greatest int is not taken for one below 0. */
-        private boolean has(long place) {
-            return place >= 0 && place < length;
+        private long cellAt(int c) {
+            return c >= 0 && c < cells.length ? cells[c] : 0;
         }
 
-        int bitAt(long place) {
-            return has(place) ? (int) (cells[(int) (place >> 6)] >>> place) & 1 : 0;
+        int bitAt(int place) {
+            return (int) (cellAt(place >> 6) >>> (place & 63)) & 1;
         }
 
         long window(int from) {
-            long bits = 0;
-            for (int b = 0; b < 64; b++) {
-                bits |= (long) bitAt((long) from + b) << b;
-            }
-            return bits;
+            int cell = from >> 6;
+            int shift = from & 63;
+            long low = cellAt(cell) >>> shift;
+            return shift == 0 ? low : low | cellAt(cell + 1) << (64 - shift);
         }
 
         int flip(int from, long bits) {
             int flipped = 0;
             for (int b = 0; b < 64; b++) {
+                // An int would go round behind its greatest value and come back below 0.
                 long place = (long) from + b;
-                if (((bits >>> b) & 1) != 0 && has(place)) {
-                    cells[(int) (place >> 6)] ^= 1L << place;
+                if (((bits >>> b) & 1) != 0 && place >= 0 && place < length) {
+                    cells[(int) (place >> 6)] ^= 1L << (place & 63);
                     flipped++;
                 }
             }
@@ -592,19 +589,19 @@ public final class DeepChannel {
             put = 0;
         }
 
-        /** Also the greatest number of bits that make no more than the line: each makes at least one. */
+        /** All that the line can hold of: every pattern keeps at least one bit of each pair. */
         int bitsPut() {
             return put;
         }
 
-        /** The pair that a register makes: the first bit is 1, the second 2. */
+        /** The first bit of the pair is the lower one. */
         static int pairOf(int register) {
             int first = Integer.bitCount(register & FIRST_TAPS) & 1;
             int second = 1 - (Integer.bitCount(register & SECOND_TAPS) & 1);
             return first | second << 1;
         }
 
-        /** Which of the pair are kept for the sent bit at a place. */
+        /** What is kept is 1 in the same places as in the pair, so that both go together by and. */
         static int keptAt(int pattern, int place) {
             int shift = PERIODS[pattern] - 1 - place % PERIODS[pattern];
             return (FIRST_KEPT[pattern] >> shift) & 1 | ((SECOND_KEPT[pattern] >> shift) & 1) << 1;
@@ -876,22 +873,23 @@ public final class DeepChannel {
             return window;
         }
 
-        void takeIn(BitRow line, int count, int limit) {
+        void decodeRow(BitRow line, int count) {
             differing = nearest.decode(line, shape.pattern, count, found);
-            taken = 0;
-            lastMaster = NONE;
-            Arrays.fill(lastOfChannel, NONE);
-            takeBlocks(limit);
         }
 
-        private void takeBlocks(int limit) {
+        /** Where blocks are hangs on the marks alone, so that they are read afterwards. */
+        void findBlocks(int limit) {
             int length = MARK_BITS + 8 * shape.blockBytes();
+            int mark = mirrored(MARK, MARK_BITS);
             int expected = NONE;
             int p = 0;
+            taken = 0;
             while (p + length <= found.size() && taken < BLOCKS_MOST) {
-                int wrong = Integer.bitCount(bitsFrom(p, MARK_BITS) ^ MARK);
+                int wrong = Integer.bitCount((int) found.window(p) ^ mark);
                 if (wrong <= limit || p == expected) {
-                    takeBlock(p + MARK_BITS, wrong);
+                    setFact(taken, PLACE, p + MARK_BITS);
+                    setFact(taken, MARK_WRONG, wrong);
+                    taken++;
                     p += length;
                     expected = wrong <= limit ? p : NONE;
                 } else {
@@ -900,25 +898,22 @@ public final class DeepChannel {
             }
         }
 
-        private int bitsFrom(int place, int count) {
-            int bits = 0;
-            for (int b = 0; b < count; b++) {
-                bits = bits << 1 | found.bitAt(place + b);
+        void readBlocks() {
+            lastMaster = NONE;
+            Arrays.fill(lastOfChannel, NONE);
+            int start = 0;
+            for (int k = 0; k < taken; k++) {
+                unmix(fact(k, PLACE), start);
+                putWordsRight(k, start);
+                judgeFrame(k, start);
+                start += shape.blockBytes();
             }
-            return bits;
         }
 
-        private void takeBlock(int place, int wrong) {
-            int k = taken;
-            int start = k * shape.blockBytes();
+        private void unmix(int place, int start) {
             for (int t = 0; t < shape.blockBytes(); t++) {
-                bytes[start + t] = bitsFrom(place + 8 * t, 8) ^ mixer.at(t);
+                bytes[start + t] = mirrored(found.window(place + 8 * t), 8) ^ mixer.at(t);
             }
-            setFact(k, PLACE, place);
-            setFact(k, MARK_WRONG, wrong);
-            putWordsRight(k, start);
-            judgeFrame(k, start);
-            taken++;
         }
 
         private void setFact(int k, int what, int value) {
@@ -943,8 +938,8 @@ public final class DeepChannel {
 
         private void judgeFrame(int k, int start) {
             int checked = shape.frameBytes() - FRAME_CHECK_BYTES;
-            int told = bytes[start + checked] << 8 | bytes[start + checked + 1];
-            boolean good = fact(k, LOST) == 0 && checkOf(bytes, start, checked) == told;
+            int check = bytes[start + checked] << 8 | bytes[start + checked + 1];
+            boolean good = fact(k, LOST) == 0 && checkOf(bytes, start, checked) == check;
             setFact(k, GOOD, good ? 1 : 0);
             if (good) {
                 readHeader(k, start);

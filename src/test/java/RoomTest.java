@@ -1,0 +1,42 @@
+import com.sun.management.ThreadMXBean;
+import java.lang.management.ManagementFactory;
+
+/** The room of a run is small: an object is a few rows, and its calls make nothing at all. */
+public final class RoomTest {
+    private static final long OBJECT_BYTES_MOST = 100_000;
+    private static final ThreadMXBean BEAN = (ThreadMXBean) ManagementFactory.getThreadMXBean();
+    private static final long ME = Thread.currentThread().getId();
+
+    public static void main(String[] args) {
+        run(new DeepChannel());
+        long start = BEAN.getThreadAllocatedBytes(ME);
+        DeepChannel x = new DeepChannel();
+        long made = BEAN.getThreadAllocatedBytes(ME);
+        run(x);
+        long end = BEAN.getThreadAllocatedBytes(ME);
+        Check.holds("an object takes " + (made - start) + " bytes, which is few", made - start < OBJECT_BYTES_MOST);
+        Check.holds("a run of calls makes " + (end - made) + " bytes, which is nothing", end - made < 1000);
+        Check.end();
+    }
+
+    /** Less than 512 calls, most of them the dearest: a full line, spoiled, with words to be put right. */
+    private static void run(DeepChannel x) {
+        x.form(1, 230, 8, 4);
+        for (int n = 0; n < 15; n++) {
+            x.data(1, n);
+            x.send(n % 8);
+            x.turn(260 * n + 100, 0x7FFFFFFL);
+        }
+        for (int n = 0; n < 200; n++) {
+            x.receive(n % 9);
+            x.turn(n * 7, 1);
+        }
+        x.block(0, 3);
+        x.word(0, 0);
+        x.frame(0, 0);
+        x.line(5);
+        x.decoded(5);
+        x.craft(3);
+        x.told(7);
+    }
+}
