@@ -7,11 +7,13 @@ public final class ModelTest {
     private static final List<int[]> FORMS = forms();
 
     public static void main(String[] args) {
-        for (int seed = 0; seed < 60; seed++) {
+        for (int seed = 0; seed < 100; seed++) {
             mixedRun(seed);
         }
         for (int seed = 0; seed < 60; seed++) {
-            craftedRun(seed);
+            for (int limit = 0; limit <= 8; limit += 4) {
+                craftedRun(seed, limit);
+            }
         }
         everyFormOnce();
         Check.end();
@@ -45,7 +47,8 @@ public final class ModelTest {
     private static void mixedRun(int seed) {
         Random random = new Random(seed);
         Twin twin = new Twin("mixed run " + seed);
-        while (twin.calls() < 400) {
+        // A step may fill the data of the greatest frame, with 29 calls.
+        while (twin.callsLeft() > 200) {
             mixedStep(twin, random);
         }
         twin.receive(random.nextInt(9));
@@ -53,7 +56,7 @@ public final class ModelTest {
     }
 
     private static void mixedStep(Twin twin, Random random) {
-        switch (random.nextInt(40)) {
+        switch (random.nextInt(38)) {
             case 0 -> chooseForm(twin, random);
             case 1 -> twin.form(random.nextInt(10), random.nextInt(256) - 2, 8 * random.nextInt(3), random.nextInt(7) - 1);
             case 2, 3 -> twin.craft(random.nextInt(1028) - 2);
@@ -73,8 +76,7 @@ public final class ModelTest {
             case 32 -> twin.decoded(anyPlace(twin, random));
             case 33, 34 -> twin.block(random.nextInt(6) - 1, random.nextInt(11) - 1);
             case 35, 36 -> twin.word(random.nextInt(6) - 1, random.nextInt(10) - 1);
-            case 37 -> twin.frame(random.nextInt(6) - 1, random.nextInt(280) - 15);
-            default -> twin.askAll();
+            default -> twin.frame(random.nextInt(6) - 1, random.nextInt(280) - 15);
         }
     }
 
@@ -106,23 +108,21 @@ public final class ModelTest {
     }
 
     /** Blocks made by the model, with bytes and marks spoiled by count, sent as plain bits. */
-    private static void craftedRun(int seed) {
+    private static void craftedRun(int seed, int limit) {
         Random random = new Random(1000 + seed);
-        Twin twin = new Twin("crafted run " + seed);
+        Twin twin = new Twin("crafted run " + seed + ", limit " + limit);
         chooseForm(twin, random);
         twin.plainBits(randomBits(random.nextInt(50), random));
         Model m = twin.m;
-        while (twin.calls() < 400 && roomFor(m)) {
+        while (roomFor(m)) {
             if (random.nextInt(4) == 0) {
                 twin.plainBits(randomBits(1 + random.nextInt(20), random));
             }
             twin.plainBits(spoiledMark(random.nextInt(12), random));
             twin.plainBits(m.bitsOf(spoiledBlock(m, random)));
         }
-        for (int limit = 0; limit <= 8; limit += 4) {
-            twin.receive(limit);
-            twin.askAll();
-        }
+        twin.receive(limit);
+        twin.askAll();
     }
 
     private static boolean roomFor(Model m) {

@@ -2,93 +2,84 @@ import java.util.Random;
 
 /** A channel and its model, which get the same calls; every answer is held against the model's. */
 final class Twin {
-    final DeepChannel x = new DeepChannel();
+    final Counted x = new Counted();
     final Model m = new Model();
     private final String title;
-    private int calls = 0;
 
     Twin(String title) {
         this.title = title;
     }
 
-    int calls() {
-        return calls;
+    int callsLeft() {
+        return Counted.CALLS_MOST - x.calls();
     }
 
-    private long both(String call, Check.Call real, Check.Call model) {
-        calls++;
+    private void both(String call, Check.Call real, Check.Call model) {
         String got = Check.outcome(real);
         String due = Check.outcome(model);
-        Check.same(title + ", call " + calls + ": " + call, got, due);
-        return due.startsWith("throws.") ? Model.NONE : Long.parseLong(due);
+        Check.same(title + ", call " + x.calls() + ": " + call, got, due);
     }
 
     void form(int depth, int fill, int e, int pattern) {
-        both("form(" + depth + ", " + fill + ", " + e + ", " + pattern + ")", () -> {
-            x.form(depth, fill, e, pattern);
-            return 0;
-        }, () -> {
+        both("form(" + depth + ", " + fill + ", " + e + ", " + pattern + ")", () -> x.form(depth, fill, e, pattern), () -> {
             m.form(depth, fill, e, pattern);
             return 0;
         });
     }
 
-    long craft(int craft) {
-        return both("craft(" + craft + ")", () -> x.craft(craft), () -> m.craft(craft));
+    void craft(int craft) {
+        both("craft(" + craft + ")", () -> x.craft(craft), () -> m.craft(craft));
     }
 
-    long told(int what) {
-        return both("told(" + what + ")", () -> x.told(what), () -> m.told(what));
+    void told(int what) {
+        both("told(" + what + ")", () -> x.told(what), () -> m.told(what));
     }
 
-    long data(int n, long bytes) {
-        return both("data(" + n + ", " + bytes + ")", () -> x.data(n, bytes), () -> m.data(n, bytes));
+    void data(int n, long bytes) {
+        both("data(" + n + ", " + bytes + ")", () -> x.data(n, bytes), () -> m.data(n, bytes));
     }
 
-    long send(int channel) {
-        return both("send(" + channel + ")", () -> x.send(channel), () -> m.send(channel));
+    void send(int channel) {
+        both("send(" + channel + ")", () -> x.send(channel), () -> m.send(channel));
     }
 
-    long plain(int n, long bits) {
-        return both("plain(" + n + ", " + bits + ")", () -> x.plain(n, bits), () -> m.plain(n, bits));
+    void plain(int n, long bits) {
+        both("plain(" + n + ", " + bits + ")", () -> x.plain(n, bits), () -> m.plain(n, bits));
     }
 
     void skip(int channel) {
-        both("skip(" + channel + ")", () -> {
-            x.skip(channel);
-            return 0;
-        }, () -> {
+        both("skip(" + channel + ")", () -> x.skip(channel), () -> {
             m.skip(channel);
             return 0;
         });
     }
 
-    long turn(int i, long bits) {
-        return both("turn(" + i + ", " + bits + ")", () -> x.turn(i, bits), () -> m.turn(i, bits));
+    void turn(int i, long bits) {
+        both("turn(" + i + ", " + bits + ")", () -> x.turn(i, bits), () -> m.turn(i, bits));
     }
 
-    long line(int i) {
-        return both("line(" + i + ")", () -> x.line(i), () -> m.line(i));
+    void line(int i) {
+        both("line(" + i + ")", () -> x.line(i), () -> m.line(i));
     }
 
-    long receive(int limit) {
-        return both("receive(" + limit + ")", () -> x.receive(limit), () -> m.receive(limit));
+    void receive(int limit) {
+        both("receive(" + limit + ")", () -> x.receive(limit), () -> m.receive(limit));
     }
 
-    long decoded(int i) {
-        return both("decoded(" + i + ")", () -> x.decoded(i), () -> m.decoded(i));
+    void decoded(int i) {
+        both("decoded(" + i + ")", () -> x.decoded(i), () -> m.decoded(i));
     }
 
-    long block(int k, int what) {
-        return both("block(" + k + ", " + what + ")", () -> x.block(k, what), () -> m.block(k, what));
+    void block(int k, int what) {
+        both("block(" + k + ", " + what + ")", () -> x.block(k, what), () -> m.block(k, what));
     }
 
-    long word(int k, int j) {
-        return both("word(" + k + ", " + j + ")", () -> x.word(k, j), () -> m.word(k, j));
+    void word(int k, int j) {
+        both("word(" + k + ", " + j + ")", () -> x.word(k, j), () -> m.word(k, j));
     }
 
-    long frame(int k, int i) {
-        return both("frame(" + k + ", " + i + ")", () -> x.frame(k, i), () -> m.frame(k, i));
+    void frame(int k, int i) {
+        both("frame(" + k + ", " + i + ")", () -> x.frame(k, i), () -> m.frame(k, i));
     }
 
     /** As many data as a frame still needs. */
@@ -101,37 +92,35 @@ final class Twin {
     void plainBits(String bits) {
         for (int i = 0; i < bits.length(); i += 64) {
             String part = bits.substring(i, Math.min(i + 64, bits.length()));
-            long value = 0;
-            for (int b = 0; b < part.length(); b++) {
-                value |= (long) (part.charAt(b) - '0') << b;
-            }
-            plain(part.length(), value);
+            plain(part.length(), Rows.window(part, 0));
         }
     }
 
-    /** All that can be asked without changing anything; these calls do not count in a run. */
+    /** All that can be asked without changing anything, until the calls of the object are used up. */
     void askAll() {
-        int before = calls;
-        for (int what = -1; what <= 8; what++) {
+        for (int what = -1; what <= 8 && callsLeft() > 0; what++) {
             told(what);
         }
-        for (int i = -70; i < m.told(3) + 70; i += 61) {
-            line(i);
+        for (int k = -1; k <= m.told(7); k++) {
+            askBlock(k);
         }
-        for (int i = -70; i < m.told(5) + 70; i += 61) {
+        for (int i = -3; i < m.told(5) + 64 && callsLeft() > 0; i += 64) {
             decoded(i);
         }
-        for (int k = -1; k <= m.told(7); k++) {
-            for (int what = -1; what <= 9; what++) {
-                block(k, what);
-            }
-            for (int j = -1; j <= 8; j++) {
-                word(k, j);
-            }
-            for (int i = -9; i < m.told(0) + 9; i += 7) {
-                frame(k, i);
-            }
+        for (int i = -3; i < m.told(3) + 64 && callsLeft() > 0; i += 64) {
+            line(i);
         }
-        calls = before;
+    }
+
+    private void askBlock(int k) {
+        for (int what = -1; what <= 9 && callsLeft() > 0; what++) {
+            block(k, what);
+        }
+        for (int j = -1; j <= m.depth && callsLeft() > 0; j++) {
+            word(k, j);
+        }
+        for (int i = -1; i < m.told(0) && callsLeft() > 0; i += 8) {
+            frame(k, i);
+        }
     }
 }
