@@ -32,14 +32,14 @@ public final class FaceTest {
     private static final Set<String> IMPORTS = Set.of("import java.util.Arrays;", "import java.util.ArrayList;",
         "import java.util.List;", "import java.util.Iterator;", "import java.util.NoSuchElementException;");
 
-    public static void main(String[] args) throws IOException {
+    public static void main(String[] args) throws IOException, ReflectiveOperationException {
         members();
         nestedClasses();
         source();
         Check.end();
     }
 
-    private static void members() {
+    private static void members() throws ReflectiveOperationException {
         Class<?> type = DeepChannel.class;
         int modifiers = type.getModifiers();
         Check.holds("public and final", Modifier.isPublic(modifiers) && Modifier.isFinal(modifiers));
@@ -53,9 +53,9 @@ public final class FaceTest {
         for (Field field : type.getDeclaredFields()) {
             boolean open = !Modifier.isPrivate(field.getModifiers());
             Check.same("field " + field.getName(), open ? 1 : 0, field.getName().equals("NONE") ? 1 : 0);
-            Check.holds(field.getName() + " is final", Modifier.isFinal(field.getModifiers()));
+            finalIfStatic(field);
         }
-        Check.same("NONE", DeepChannel.NONE, -1);
+        noneIsAConstant();
         Constructor<?>[] constructors = type.getDeclaredConstructors();
         Check.same("constructors", constructors.length, 1);
         Check.same("constructor", constructors[0].toString(), "public DeepChannel()");
@@ -73,13 +73,24 @@ public final class FaceTest {
                 ownName(method);
             }
             for (Field field : type.getDeclaredFields()) {
-                int kind = field.getModifiers();
-                Check.holds(field + " is final if static", !Modifier.isStatic(kind) || Modifier.isFinal(kind));
+                finalIfStatic(field);
             }
         }
         for (Method method : DeepChannel.class.getDeclaredMethods()) {
             ownName(method);
         }
+    }
+
+    /** "public static final int NONE = -1". */
+    private static void noneIsAConstant() throws ReflectiveOperationException {
+        Field none = DeepChannel.class.getDeclaredField("NONE");
+        Check.same("NONE: what it is", none.toString(), "public static final int DeepChannel.NONE");
+        Check.same("NONE", none.getInt(null), -1);
+    }
+
+    private static void finalIfStatic(Field field) {
+        int kind = field.getModifiers();
+        Check.holds(field + " is final if static", !Modifier.isStatic(kind) || Modifier.isFinal(kind));
     }
 
     /** No private method bears the name of a public one. */

@@ -592,14 +592,20 @@ final class Model {
         return Arrays.stream(values(word, e)).allMatch(v -> v == 0);
     }
 
-    /** The check bytes as unknowns: one equation for each power of G. */
     static void addChecks(int[] word, int e) {
+        addChecks(word, e, new int[2 * e]);
+    }
+
+    /** Check bytes that give the word such values at the powers of G, as unknowns: one equation for each. */
+    static void addChecks(int[] word, int e, int[] due) {
         Arrays.fill(word, word.length - 2 * e, word.length, 0);
         int[] places = new int[2 * e];
+        int[] values = values(word, e);
         for (int k = 0; k < 2 * e; k++) {
             places[k] = word.length - 2 * e + k;
+            values[k] ^= due[k];
         }
-        int[] checks = differences(word, places, values(word, e), e);
+        int[] checks = differences(word, places, values, e);
         for (int k = 0; k < 2 * e; k++) {
             word[places[k]] = otherForm(checks[k]);
         }

@@ -109,7 +109,7 @@ public final class ModelTest {
 
     /** Blocks made by the model, with bytes and marks spoiled by count, sent as plain bits. */
     private static void craftedRun(int seed, int limit) {
-        Random random = new Random(1000 + seed);
+        Random random = new Random(1000 + 9 * seed + limit);
         Twin twin = new Twin("crafted run " + seed + ", limit " + limit);
         chooseForm(twin, random);
         twin.plainBits(randomBits(random.nextInt(50), random));

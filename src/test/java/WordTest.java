@@ -1,4 +1,5 @@
 import java.util.Arrays;
+import java.util.Random;
 
 /** Promise 14: word, and how the terms put words right. */
 public final class WordTest {
@@ -11,7 +12,10 @@ public final class WordTest {
         upToE();
         eachPlace();
         theHighestAndTheLowestBytes();
+        anyPlaces();
+        oneValueThatIsNotZero();
         nearTheFill();
+        nearEachByteOfTheFill();
         nineThatCanBeTold();
         allZero();
         becomesAnotherCodeword();
@@ -130,6 +134,68 @@ public final class WordTest {
         }
     }
 
+    /** "the codeword from which it differs at no more than E places": wherever these are, whatever stands there. */
+    private static void anyPlaces() {
+        Random random = new Random(14);
+        int[][] forms = {{1, 230, 8, 4}, {1, 190, 8, 4}, {1, 214, 16, 4}, {1, 150, 16, 4}};
+        for (int[] form : forms) {
+            int[] clean = clean(form);
+            for (int round = 0; round < 60; round++) {
+                rowOfWords(form, clean, random);
+            }
+        }
+    }
+
+    /** As many blocks of one word each as the line has room for. */
+    private static void rowOfWords(int[] form, int[] clean, Random random) {
+        Model m = Rows.model(form);
+        int[][] words = new int[3584 / (32 + 8 * clean.length)][];
+        Counted x = Counted.of(form);
+        for (int k = 0; k < words.length; k++) {
+            words[k] = clean.clone();
+            spoilAnywhere(words[k], random.nextInt(form[2] + 3), random);
+            x.put(Model.MARK + m.bitsOf(words[k]));
+        }
+        Check.same("word: all are taken", x.receive(0), words.length);
+        for (int k = 0; k < words.length; k++) {
+            String name = "word: " + Arrays.toString(words[k]);
+            Check.same(name, x.word(k, 0), Model.putRight(words[k], form[2]));
+            int[] frame = Arrays.copyOf(words[k], m.told(0));
+            for (int i = 0; i < frame.length; i += 8) {
+                Check.same(name + ": bytes from " + i, x.frame(k, i), Rows.eight(frame, i));
+            }
+        }
+    }
+
+    private static void spoilAnywhere(int[] word, int count, Random random) {
+        for (int n = 0; n < count; n++) {
+            word[random.nextInt(word.length)] ^= 1 + random.nextInt(255);
+        }
+    }
+
+    private static void isLost(String name, int[] form, int[] word) {
+        Counted x = taken(form, word);
+        Check.same("word: " + name, x.word(0, 0), NONE);
+        Check.same("word: " + name + ", lost", x.block(0, 2), 1);
+        Check.same("word: " + name + ", it stays", x.frame(0, 0), Rows.eight(word, 0));
+    }
+
+    /** "if the value of that at G to the j is 0 for all j from 128 - E to 127 + E": all but one do not do. */
+    private static void oneValueThatIsNotZero() {
+        for (int[] form : new int[][] {{1, 230, 8, 4}, {1, 214, 16, 4}}) {
+            int e = form[2];
+            for (int j = 128 - e; j <= 127 + e; j++) {
+                for (int value : new int[] {1, 254}) {
+                    int[] values = new int[2 * e];
+                    values[j - 128 + e] = value;
+                    int[] word = clean(form);
+                    Model.addChecks(word, e, values);
+                    isLost("E " + e + ", value " + value + " at " + j, form, word);
+                }
+            }
+        }
+    }
+
     /** A longer codeword that is 0 but for a byte in the fill lies near, but is none of this form. */
     private static void nearTheFill() {
         Model longer = Rows.model(1, 229, 8, 0);
@@ -140,6 +206,25 @@ public final class WordTest {
         Counted x = taken(Counted.SMALLEST, block);
         Check.same("word: the codeword lies in the fill", x.word(0, 0), NONE);
         Check.same("word: it stays", x.frame(0, 1), 7L << 56);
+    }
+
+    /** The same for each power of the fill, alone and with as many wrong bytes in the word as E leaves. */
+    private static void nearEachByteOfTheFill() {
+        for (int[] form : new int[][] {{1, 230, 8, 4}, {1, 214, 16, 4}, {1, 5, 8, 4}}) {
+            int size = 255 - form[1];
+            int e = form[2];
+            for (int power = size; power < 255; power++) {
+                int[] values = new int[2 * e];
+                for (int s = 0; s < 2 * e; s++) {
+                    values[s] = Model.times(1 + power, Model.g((128 - e + s) * power));
+                }
+                int[] word = clean(form);
+                Model.addChecks(word, e, values);
+                isLost("E " + e + ", a byte at the power " + power, form, word);
+                Rows.spoil(word, 1, 0, e - 1, power % (size - e));
+                isLost("E " + e + ", a byte at the power " + power + " and others", form, word);
+            }
+        }
     }
 
     /**
