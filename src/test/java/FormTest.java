@@ -1,4 +1,5 @@
 import java.util.Arrays;
+import java.util.Random;
 
 /** Promise 2, and the FORM of the terms: which forms there are, and what a new one leaves. */
 public final class FormTest {
@@ -7,6 +8,7 @@ public final class FormTest {
 
     public static void main(String[] args) {
         depths();
+        depthsThatGoRound();
         fills();
         fillsThatGoRound();
         strengths();
@@ -45,6 +47,23 @@ public final class FormTest {
         }
         for (int far : Rows.FAR) {
             none(far, 230, 8, 0);
+        }
+    }
+
+    /** Depths so far off that the bytes of all words, counted by an int, come out few again. */
+    private static void depthsThatGoRound() {
+        for (int depth = 1; depth <= 5; depth++) {
+            for (int bit = 26; bit <= 31; bit++) {
+                for (int fill : new int[] {205, 207, 223, 231}) {
+                    none(depth - (1 << bit), fill, 8, 0);
+                    none(depth + (1 << bit), fill, 8, 0);
+                }
+            }
+        }
+        Random random = new Random(2);
+        for (int n = 0; n < 5000; n++) {
+            int far = random.nextInt();
+            none(far < 0 ? far : far | 16, 200 + n % 40, 8 + n % 2 * 8, n % 5);
         }
     }
 
